@@ -36,8 +36,6 @@ public final class OneLeg {
 
     private final Thought thought = new Thought(house);
     private final Changes changes = new Changes();
-    private final int[] tape = new int[MOST_TAPE];
-    private int tapeLength;
     private final Boots boots = new Boots();
     private final Shelf[] shelves = new Shelf[SHELVES];
 
@@ -154,17 +152,11 @@ public final class OneLeg {
         if (!isWithin(letter, 0, 255)) {
             return BAD;
         }
-        if (tapeLength == MOST_TAPE) {
-            return FULL;
-        }
-        tape[tapeLength] = letter;
-        tapeLength++;
-        return tapeLength;
+        return house.law.length == MOST_TAPE ? FULL : house.law.write(letter);
     }
 
     public int law() {
-        int fault = house.law.read(tape, tapeLength);
-        tapeLength = 0;
+        int fault = house.law.read();
         return fault == Law.NO_FAULT ? 1 : FAULTS_FROM - fault;
     }
 
@@ -598,7 +590,7 @@ public final class OneLeg {
         switch (what) {
             case 0: return house.size;
             case 1: return Integer.bitCount(knownByGroup((1 << house.size) - 1));
-            case 2: return tapeLength;
+            case 2: return house.law.length;
             case 3: return changes.done;
             case 4: return boots.size;
             case 5: return boots.ran;
@@ -903,7 +895,7 @@ public final class OneLeg {
         }
     }
 
-    /** The law's text, read once into steps for a stack, so that days in thought need no reading. */
+    /** The tape, and the law read from it once into steps for a stack, so that days in thought need no reading. */
     private static final class Law {
         static final int NO_FAULT = -1;
         static final int K = 0, O = 1, W = 2, V = 3, F = 4, D = 5, NAMES = 6;
@@ -919,8 +911,8 @@ public final class OneLeg {
         private int size;
         private final int[] stack = new int[MOST_STEPS];
 
-        private int[] text;
-        private int end;
+        private final int[] tape = new int[MOST_TAPE];
+        int length;
         private int at;
         private final int[] draft = new int[MOST_STEPS];
         private int drafted;
@@ -929,13 +921,19 @@ public final class OneLeg {
             return size > 0;
         }
 
-        /** NO_FAULT, or the place of the fault: then the law stays as it was. */
-        int read(int[] tape, int length) {
-            text = tape;
-            end = length;
+        int write(int letter) {
+            tape[length] = letter;
+            length++;
+            return length;
+        }
+
+        /** NO_FAULT, or the place of the fault: then the law stays as it was. The tape is empty behind both. */
+        int read() {
             at = 0;
             drafted = 0;
-            if (!readLines()) {
+            boolean isRead = readLines();
+            length = 0;
+            if (!isRead) {
                 return at;
             }
             System.arraycopy(draft, 0, steps, 0, drafted);
@@ -944,12 +942,12 @@ public final class OneLeg {
         }
 
         private boolean readLines() {
-            for (int lines = 0; lines <= end; lines++) {
+            for (int lines = 0; lines <= length; lines++) {
                 if (!readLine()) {
                     return false;
                 }
                 addStep(END);
-                if (at == end) {
+                if (at == length) {
                     return true;
                 }
                 if (!isAccepted(';')) {
@@ -978,7 +976,7 @@ public final class OneLeg {
             if (!readChain(level + 1, open)) {
                 return false;
             }
-            for (int links = 0; links < end && levelOf(sign()) == level; links++) {
+            for (int links = 0; links < length && levelOf(sign()) == level; links++) {
                 int joint = sign();
                 at++;
                 if (!readChain(level + 1, open)) {
@@ -1037,7 +1035,7 @@ public final class OneLeg {
         }
 
         private int sign() {
-            return at < end ? text[at] : NO_SIGN;
+            return at < length ? tape[at] : NO_SIGN;
         }
 
         private void addStep(int step) {
@@ -1188,7 +1186,7 @@ public final class OneLeg {
 
         static boolean isUnder(int kind, int top) {
             int k = kind;
-            while (k > top) {
+            for (int ups = 0; ups < MOST_KIND && k != top && k != NO_KIND; ups++) {
                 k = ABOVE[k];
             }
             return k == top;
@@ -1197,10 +1195,10 @@ public final class OneLeg {
         /** The body that kind from has for an act, or the next kind above that has one. */
         int perform(int number, int from, int act, int x, int depth) {
             int kind = from;
-            while (kind > 0 && BODIES[kind * ACTS + act] == 0) {
+            for (int ups = 0; ups < MOST_KIND && kind != NO_KIND && BODIES[kind * ACTS + act] == 0; ups++) {
                 kind = ABOVE[kind];
             }
-            if (kind < 0 || depth > MOST_DEPTH) {
+            if (kind == NO_KIND || depth > MOST_DEPTH) {
                 return 0;
             }
             int body = BODIES[kind * ACTS + act];
@@ -1269,8 +1267,8 @@ public final class OneLeg {
                 case BYTES: return (byte) v;
                 case SHORTS: return (short) v;
                 case INTS: return (int) v;
-                case BOOLEANS: return v != 0 ? 1 : 0;
-                default: return v;
+                case LONGS: return v;
+                default: return v != 0 ? 1 : 0;
             }
         }
     }
