@@ -1088,7 +1088,9 @@ public final class OneLeg {
                     top--;
                     i = stack[top] != 0 ? i : endOfLine(i);
                 } else if (step == NO || step == MINUS) {
-                    stack[top - 1] = step == MINUS ? -stack[top - 1] : truth(stack[top - 1] == 0);
+                    int under = stack[top - 1];
+                    int denied = under == 0 ? 1 : 0;
+                    stack[top - 1] = step == MINUS ? -under : denied;
                 } else {
                     top--;
                     stack[top - 1] = joined(-step, stack[top - 1], stack[top]);
@@ -1107,21 +1109,17 @@ public final class OneLeg {
 
         private static int joined(int joint, int a, int b) {
             switch (joint) {
-                case '|': return truth(a != 0 || b != 0);
-                case '&': return truth(a != 0 && b != 0);
-                case '<': return truth(a < b);
-                case '=': return truth(a == b);
-                case '>': return truth(a > b);
+                case '|': return a != 0 || b != 0 ? 1 : 0;
+                case '&': return a != 0 && b != 0 ? 1 : 0;
+                case '<': return a < b ? 1 : 0;
+                case '=': return a == b ? 1 : 0;
+                case '>': return a > b ? 1 : 0;
                 case '+': return a + b;
                 case '-': return a - b;
                 case '*': return a * b;
                 case '/': return b == 0 ? 0 : a / b;
                 default: return b == 0 ? 0 : a % b;
             }
-        }
-
-        private static int truth(boolean b) {
-            return b ? 1 : 0;
         }
     }
 

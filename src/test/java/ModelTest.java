@@ -798,7 +798,13 @@ public final class ModelTest {
     private final OneLeg x = new OneLeg();
     private final Model m = new Model();
 
-    private ModelTest(int seed) { random = new Random(seed); }
+    /** So that more changes come than are kept; undoing is left to the end of such a run. */
+    private final boolean isMending;
+
+    private ModelTest(int seed) {
+        random = new Random(seed);
+        isMending = seed % 20 == 0;
+    }
 
     /** Mostly within a range, now and then just or far outside it. */
     private int near(int least, int most) {
@@ -974,7 +980,7 @@ public final class ModelTest {
     }
 
     private void callAny() {
-        int r = random.nextInt(100);
+        int r = random.nextInt(isMending ? 20 : 100);
         if (r < 20) callBrothers();
         else if (r < 36) callRotas();
         else if (r < 50) callWeeks();
@@ -1010,6 +1016,7 @@ public final class ModelTest {
             }
         }
         while (compared - start < CALLS - 140 && wrong == 0) callAny();
+        for (int i = 0; isMending && i < 45; i++) same("undo", x.undo(), m.undo());
         lookRound();
     }
 
