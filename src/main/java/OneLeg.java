@@ -7,6 +7,7 @@ public final class OneLeg {
 
     private static final int MISSING = -11, OTHER_KIND = -12, NO_PLACE = -13, BELOW_ZERO = -14;
     private static final int FAULTS_FROM = -100;
+    private static final long NO_ELEMENT = 1L << 63;
 
     private static final int MOST_BROTHERS = 7, NOBODY = 7, WEEK_DAYS = 7, FACTS = 8;
     private static final int MOST_WANTS = 127, MOST_OWED = 99, MOST_KNOWS = 255, MOST_WORN = 99;
@@ -536,7 +537,7 @@ public final class OneLeg {
     }
 
     public long element(int shelf, int i) {
-        return refusalOfPlace(shelf, i) != 0 ? Long.MIN_VALUE : shelves[shelf].elements[i];
+        return refusalOfPlace(shelf, i) != 0 ? NO_ELEMENT : shelves[shelf].elements[i];
     }
 
     private int refusalOfPlace(int shelf, int i) {

@@ -251,7 +251,8 @@ public final class BrothersSentenceTest {
 
     private static void oneIsNotSo() {
         says("one is not so,");
-        int[][] wrong = {{128, 0, 0}, {-1, 0, 0}, {1, 100, 0}, {1, -1, 0}, {1, 1, 256}, {1, 1, -1}, {32767, 0, 0}, {1, -32768, 0}};
+        int[][] wrong = {{128, 0, 0}, {-1, 0, 0}, {1, 100, 0}, {1, -1, 0}, {1, 1, 256}, {1, 1, -1}, {32767, 0, 0}, {1, -32768, 0},
+            {256, 0, 0}, {261, 1, 1}, {-251, 1, 1}, {1, 256, 1}, {1, 1, 512}, {1, 1, -256}};
         for (int[] three : wrong) {
             OneLeg x = new OneLeg();
             Sentence.rowOf(x, 0, 1, 9, 9, 9, three[0], three[1], three[2], 8, 8, 8);

@@ -59,6 +59,10 @@ public final class DaysSentenceTest {
         x.mend(0, KIND, 2);
         x.mend(0, FACT, 3);
         behindADay(x, NOBODY, 0, KNOWS, 0);
+        OneLeg more = Sentence.knowing(5, 64);
+        more.mend(0, KIND, 2);
+        more.mend(0, FACT, 1);
+        behindADay(more, 0, 0, KNOWS, 7, 1, KNOWS, 71);
         OneLeg y = Sentence.knowing(8, 8);
         y.mend(0, KIND, 2);
         y.mend(0, FACT, 3);

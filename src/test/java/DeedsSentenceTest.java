@@ -318,6 +318,31 @@ public final class DeedsSentenceTest {
         for (int left = 39; left >= 0; left--) due("undo()", left, y.undo());
         due("all of them are kept", 0, y.of(0, OWED));
         due("no more", STATE, y.undo());
+        fortyOfAllNumbers();
+    }
+
+    /** Fifty changes of unlike numbers: each of the forty latest still knows its own. */
+    private static void fortyOfAllNumbers() {
+        OneLeg x = Sentence.of(0, 0, 0, 0, 0, 0, 0);
+        int[] ahead = new int[50];
+        int[] behind = new int[50];
+        for (int i = 0; i < 50; i++) {
+            int what = i * 5 % 6;
+            behind[i] = 1 + (x.of(i % 7, what) + i % 2) % 3;
+            if (behind[i] == x.of(i % 7, what)) behind[i] = behind[i] % 3 + 1;
+            ahead[i] = x.mend(i % 7, what, behind[i]);
+        }
+        due("40 of 50", 40, x.count(3));
+        for (int i = 49; i >= 10; i--) {
+            due("undo()", i - 10, x.undo());
+            due("ahead of change " + i, ahead[i], x.of(i % 7, i * 5 % 6));
+        }
+        due("the first ten are not kept", STATE, x.undo());
+        for (int i = 10; i < 50; i++) {
+            due("redo()", 49 - i, x.redo());
+            due("behind change " + i, behind[i], x.of(i % 7, i * 5 % 6));
+        }
+        due("no more", STATE, x.redo());
     }
 
     private static void deedsAreNone() {

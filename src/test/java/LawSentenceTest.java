@@ -55,6 +55,7 @@ public final class LawSentenceTest {
         fault(2, "1;", "1;;", "1;;2");
         worth(1, "1", "1;2", "1;2;3");
         worth(12, times(29, "0?1;", "12"), times(28, "0?9;", "1?12"));
+        due("120 bytes, each of which counts", 1, Sentence.worth("2<!0" + times(58, "+1", "")));
         due("many lines without a first E", 1, Sentence.worth(times(59, "1;", "12")));
     }
 

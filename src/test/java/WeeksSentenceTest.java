@@ -151,6 +151,17 @@ public final class WeeksSentenceTest {
         x.put(5, 1, 0);
         due("he has it and is OWED none", NOT, x.judge(45, 0));
         due("nothing has passed", 0, x.of(0, DAY));
+        due("one ROW for both", NOT, x.judge(44, 0));
+        due("one ROW for both, of the other one", 1, x.judge(44, 1));
+        for (int ss = 0; ss <= 55; ss++) {
+            if (ss % 10 > 5) continue;
+            OneLeg y = Sentence.of(127);
+            Sentence.rota(y, ss / 10, NOBODY, 0);
+            boolean isOne = ss / 10 == ss % 10;
+            if (!isOne) Sentence.rota(y, ss % 10, 0, 1, 0);
+            due("judge(" + ss + ", 0)", isOne ? 0 : NOT, y.judge(ss, 0));
+            due("fits(" + ss + ", 0, 0)", isOne ? 0 : 64, y.fits(ss, 0, 0));
+        }
     }
 
     private static void judge() {
@@ -279,6 +290,14 @@ public final class WeeksSentenceTest {
         turns(third, 20, 1, 3, 1);
         turns(third, 21, 5, 9, 1);
         turns(byLaw("w=0&d=1&v;0", 1, 2, 2), 1, 2, 0, 1);
+        OneLeg late = Sentence.owed(25, 96, 65, 0);
+        late.mend(0, DAY, 5);
+        late.mend(0, WORN, 30);
+        late.mend(6, KIND, 3);
+        turns(late, 1, 1, 3 + 5 - 3, 1);
+        turns(late, 1, 2, 5 - (6 + 3 + 5 - 3), 1);
+        turns(late, 10, 1, 5 - 3, 1);
+        turns(late, 2, 1, 5, 1);
     }
 
     private static void doTheirBest() {
