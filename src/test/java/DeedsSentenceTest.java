@@ -295,6 +295,16 @@ public final class DeedsSentenceTest {
         x.back();
         due("DONE AGAIN behind what is no change", 0, x.redo());
         due("OWED", 9, x.of(0, OWED));
+        OneLeg many = Sentence.of(127);
+        for (int v = 1; v <= 5; v++) many.mend(0, OWED, v);
+        for (int left = 4; left >= 1; left--) due("undo()", left, many.undo());
+        due("another one behind the first of five", 1, many.mend(0, OWED, 50));
+        due("none of the four comes again", STATE, many.redo());
+        due("two may be UNDONE", 2, many.count(3));
+        due("undo()", 1, many.undo());
+        due("the other one alone comes again", 0, many.redo());
+        due("none of the four comes again", STATE, many.redo());
+        due("OWED", 50, many.of(0, OWED));
     }
 
     private static void fortyAtMost() {

@@ -123,6 +123,13 @@ public final class ShelvesSentenceTest {
         x.body(0);
         x.keep(1, 0);
         x.row(2, INTS, 2);
+        due("nothing is there", MISSING, x.put(0, 0, 1));
+        due("nothing is there for a BOOT", MISSING, x.taken(0, 0));
+        due("a BOOT is no ROW", OTHER_KIND, x.put(1, 0, 1));
+        due("a ROW is no BOOT", OTHER_KIND, x.taken(2, 0));
+        due("a place behind the last", NO_PLACE, x.put(2, 2, 1));
+        due("a place ahead of the first", NO_PLACE, x.put(2, -1, 1));
+        due("a size below 0", BELOW_ZERO, x.row(0, INTS, -1));
         says("Element i of a ROW becomes v: 1. BAD, -11, -12, -13.");
         for (int shelf : new int[] {6, -1, LEAST, MOST}) due("SHELF " + shelf, BAD, x.put(shelf, 0, 1));
         for (int i : new int[] {0, -1, 60, LEAST, MOST}) {
@@ -139,9 +146,6 @@ public final class ShelvesSentenceTest {
         due("a BOOT", VOID, x.element(1, 0));
         for (int i : new int[] {2, 59, 60, -1, LEAST, MOST}) due("place " + i, VOID, x.element(2, i));
         due("the last place", 6, x.element(2, 1));
-        says("-14 a size below 0.");
-        due("a ROW of -1", BELOW_ZERO, x.row(2, INTS, -1));
-        due("nothing has become of it", 6, x.element(2, 1));
     }
 
     // ---- shifted

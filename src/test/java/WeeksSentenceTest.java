@@ -259,6 +259,18 @@ public final class WeeksSentenceTest {
         due("BAD is named ahead of -11", BAD, x.fits(33, 0, 4));
         due("BAD is named ahead of -12", BAD, x.fits(22, 2, 0));
         due("the last of both", 1, x.fits(5, 11, 2));
+        for (int one = 0; one < 7; one++) {
+            OneLeg all = Sentence.of(0, 0, 0, 0, 0, 0, 0);
+            for (int b = 0; b < 7; b++) all.mend(b, OWED, 10 + b);
+            Sentence.rota(all, 0, NOBODY);
+            Sentence.rota(all, 1, 10 + one);
+            for (int told = 0; told < 7; told++) {
+                int ab = 10 * one + told;
+                due("fits(1, " + ab + ", 2)", one == told ? 1 : 100, all.fits(1, ab, 2));
+                due("fits(1, " + ab + ", 3)", one == told ? 10 + one : 0, all.fits(1, ab, 3));
+                due("fits(1, " + ab + ", 0)", 128, all.fits(1, ab, 0));
+            }
+        }
     }
 
     // ---- turns
