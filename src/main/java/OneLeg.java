@@ -500,7 +500,7 @@ public final class OneLeg {
         if (!isBody(body) || !isWithin(act, 0, Boots.ACTS - 1)) {
             return 0;
         }
-        return boots.perform(body, boots.kinds[body], act, x, 0);
+        return boots.run(body, act, x);
     }
 
     public int trace(int i) {
@@ -1191,8 +1191,12 @@ public final class OneLeg {
             return k == top;
         }
 
+        int run(int number, int act, int x) {
+            return perform(number, kinds[number], act, x, 0);
+        }
+
         /** The body that kind from has for an act, or the next kind above that has one. */
-        int perform(int number, int from, int act, int x, int depth) {
+        private int perform(int number, int from, int act, int x, int depth) {
             int kind = from;
             for (int ups = 0; ups < MOST_KIND && kind != NO_KIND && BODIES[kind * ACTS + act] == 0; ups++) {
                 kind = ABOVE[kind];

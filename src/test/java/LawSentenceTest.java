@@ -276,6 +276,27 @@ public final class LawSentenceTest {
         due("the length, all of it", -220, x.law());
     }
 
+    private static void noTextIsNoLaw() {
+        says("THE LAW is a TEXT by THE TAPE");
+        OneLeg x = Sentence.of(127, 0);
+        Sentence.rota(x, 0, 0, 1);
+        String[] noTexts = {"", "2+", "2;", "(2", "2)", "0?", "2?2?2", "x", "((((((("};
+        for (String noText : noTexts) {
+            due("no text: " + noText, 1, Sentence.law(x, noText) <= -100 ? 1 : 0);
+            due("there was none: 3 times v", 3, x.does(0));
+            due("a rota without a text", 3, x.later(0, 2, 0, 2));
+        }
+        due("a text", 1, Sentence.law(x, "5+v"));
+        for (String noText : noTexts) {
+            due("no text: " + noText, 1, Sentence.law(x, noText) <= -100 ? 1 : 0);
+            due("the text that was one", 6, x.does(0));
+            due("a rota by it", 11, x.later(0, 2, 0, 2));
+        }
+        due("a day by it", 6, x.day(0));
+        due("one that counts in no LINE is a text", 1, Sentence.law(x, "0?5"));
+        due("and not none", 0, x.does(0));
+    }
+
     private static void byOneToday() {
         says("How much would be done by one today. BAD.");
         OneLeg x = new OneLeg();
@@ -309,6 +330,7 @@ public final class LawSentenceTest {
         held();
         withoutAText();
         theTapeIsEmptyThen();
+        noTextIsNoLaw();
         byOneToday();
         Sentence.end();
     }

@@ -6,7 +6,9 @@ import java.lang.reflect.Modifier;
 import java.nio.file.Files;
 import java.nio.file.Path;
 import java.util.HashSet;
+import java.util.Map;
 import java.util.Set;
+import java.util.TreeMap;
 import java.util.TreeSet;
 import java.util.regex.Matcher;
 import java.util.regex.Pattern;
@@ -107,10 +109,92 @@ public final class RulesTest {
         }
     }
 
+    // ---- who calls whom: by class and name, as the text shows it
+
+    private static final Pattern CLASS_LINE = Pattern.compile(" {4}private static final class (\\w+) \\{");
+    private static final Pattern METHOD_LINE = Pattern.compile("( {4}| {8})((?:\\w+ )*)[\\w\\[\\]]+ (\\w+)\\(.*\\) \\{");
+    private static final Pattern CALLED = Pattern.compile("(\\.?)\\b(\\w+)\\(");
+
+    private static final Map<String, String> BODY_OF = new TreeMap<>();
+    private static final Map<String, Set<String>> CALLS_OF = new TreeMap<>();
+    private static final Set<String> PRIVATE_ONES = new TreeSet<>();
+
+    private static void readMethods(String text) {
+        String inside = "OneLeg";
+        String method = "";
+        for (String line : text.split("\n")) {
+            Matcher type = CLASS_LINE.matcher(line);
+            if (type.matches()) inside = type.group(1);
+            Matcher head = METHOD_LINE.matcher(line);
+            if (head.matches()) {
+                method = inside + "." + head.group(3);
+                if (head.group(2).contains("private")) PRIVATE_ONES.add(method);
+            }
+            boolean isEnd = line.matches("( {4}| {8})}");
+            if (!head.matches() && !method.isEmpty()) BODY_OF.merge(method, line + "\n", String::concat);
+            if (isEnd) method = "";
+        }
+    }
+
+    private static void readCalls() {
+        for (String method : BODY_OF.keySet()) {
+            String own = method.substring(0, method.indexOf('.'));
+            Set<String> called = new TreeSet<>();
+            Matcher call = CALLED.matcher(BODY_OF.get(method));
+            while (call.find()) {
+                boolean isElsewhere = !call.group(1).isEmpty();
+                for (String other : BODY_OF.keySet()) {
+                    boolean isNamed = other.endsWith("." + call.group(2));
+                    if (isNamed && (isElsewhere || other.startsWith(own + "."))) called.add(other);
+                }
+            }
+            CALLS_OF.put(method, called);
+        }
+    }
+
+    private static Set<String> reachedFrom(String method) {
+        Set<String> reached = new TreeSet<>(CALLS_OF.get(method));
+        for (int before = -1; before < reached.size(); ) {
+            before = reached.size();
+            for (String m : Set.copyOf(reached)) reached.addAll(CALLS_OF.get(m));
+        }
+        return reached;
+    }
+
+    /** How many methods stand open at most from this one on, those that call one another counted once. */
+    private static int deepest(String method) {
+        int under = 0;
+        Set<String> round = new TreeSet<>(Set.of(method));
+        for (String other : reachedFrom(method)) {
+            if (reachedFrom(other).contains(method)) round.add(other);
+        }
+        for (String member : round) {
+            for (String called : CALLS_OF.get(member)) {
+                if (!round.contains(called)) under = Math.max(under, deepest(called));
+            }
+        }
+        return 1 + under;
+    }
+
+    private static void checkCalls() throws IOException {
+        readMethods(Files.readString(Path.of("src/main/java/OneLeg.java")));
+        readCalls();
+        hold(BODY_OF.size() > 100, "all methods are found: " + BODY_OF.size());
+        int recursive = 0;
+        for (String method : BODY_OF.keySet()) {
+            boolean isRecursive = reachedFrom(method).contains(method);
+            recursive += isRecursive ? 1 : 0;
+            hold(!isRecursive || PRIVATE_ONES.contains(method), method + " calls itself and is private");
+            hold(deepest(method) <= 8, method + " goes at most eight deep: " + deepest(method));
+        }
+        hold(recursive == 7, "seven methods are of recursions: " + recursive);
+    }
+
     public static void main(String[] args) throws IOException {
         checkFace();
         checkClasses();
         checkText();
+        checkCalls();
         System.out.println(wrong == 0 ? "the rules are kept" : wrong + " rules are not kept");
         if (wrong > 0) System.exit(1);
     }
